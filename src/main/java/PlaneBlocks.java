@@ -737,12 +737,8 @@ public final class PlaneBlocks {
             start = 0;
             int guess = coefficients * (planes + 2) / 7 + 4 * passes;
             if (guess > bytes.length) {
-                bytes = new int[Math.max(guess, grown())];
+                bytes = new int[Math.max(guess, 2 * bytes.length)];
             }
-        }
-
-        private int grown() {
-            return bytes.length + bytes.length / 2 + 1;
         }
 
         void openSegment() {
@@ -762,7 +758,7 @@ public final class PlaneBlocks {
 
         void append(int b) {
             if (count == bytes.length) {
-                bytes = Arrays.copyOf(bytes, grown());
+                bytes = Arrays.copyOf(bytes, 2 * count);
             }
             bytes[count] = b;
             count++;
@@ -968,11 +964,6 @@ public final class PlaneBlocks {
             } else {
                 contexts.otherCame(context);
             }
-            makeRoom();
-            return isLikely ? likely : 1 - likely;
-        }
-
-        private void makeRoom() {
             for (int i = 0; i < MOST_DOUBLINGS && size < HALF; i++) {
                 if (room == 0) {
                     byteIn();
@@ -981,6 +972,7 @@ public final class PlaneBlocks {
                 window *= 2;
                 room--;
             }
+            return isLikely ? likely : 1 - likely;
         }
     }
 

@@ -167,8 +167,23 @@ public final class ModelTest {
             read(chance.nextBoolean() ? model.passes : chance.nextInt(model.passes + 1));
             allThatWasRead();
         }
+        pairBehind255(chance);
         write();
         allThatWasWritten();
+    }
+
+    /** A reader of coded bits tells a byte of 143 behind a 255 from one of 144. */
+    private static void pairBehind255(Random chance) {
+        if (model.bytes.size() < 2) {
+            return;
+        }
+        int k = chance.nextInt(model.bytes.size() - 1);
+        change(k, 255);
+        for (int b = 142; b <= 145; b++) {
+            change(k + 1, b);
+            read(model.passes);
+            sum();
+        }
     }
 
     private static void anyCall(Random chance) {
