@@ -316,6 +316,7 @@ public final class PlaneBlocks {
             firstOfSegment = 0;
         }
 
+        // The highest plane has the last of the three passes alone, so numbers lag behind by two.
         int kindOf(int k) {
             return (k + CLEAN) % 3;
         }
