@@ -1,6 +1,8 @@
 import java.math.BigInteger;
 import java.util.ArrayList;
 import java.util.List;
+import java.util.Set;
+import java.util.TreeSet;
 
 /**
  * The document once more, word by word and without any haste: what PlaneBlocks is compared with.
@@ -49,6 +51,16 @@ final class DocModel {
     int[][] magnitude, latest;
     int[] state = new int[19], likely = new int[19];
     int faults;
+
+    /** Which of the rare cases came, so that a test can tell that it saw the one that it is about. */
+    final Set<String> met = new TreeSet<>();
+    final boolean[] otherIn = new boolean[47], nextOf = new boolean[47], behind255 = new boolean[256];
+
+    void meet(boolean came, String what) {
+        if (came) {
+            met.add(what);
+        }
+    }
 
     boolean has(int part) {
         return (style / part) % 2 == 1;
@@ -290,6 +302,11 @@ final class DocModel {
         public int bit(int b, int c) {
             int p = STATES[state[c]][0];
             size -= p;
+            meet(size == p, b == likely[c] ? "likely bit, SIZE just p" : "other bit, SIZE just p");
+            meet(b == likely[c] && size == 32768, "likely bit, SIZE just 32768");
+            meet(b == likely[c] && size == 32767, "likely bit, SIZE just below 32768");
+            otherIn[state[c]] |= b != likely[c];
+            nextOf[state[c]] |= b == likely[c] && size < 32768;
             if (b == likely[c]) {
                 if (size >= 32768) {
                     low += p;
@@ -313,10 +330,15 @@ final class DocModel {
 
         void out() {
             int n = own.size();
+            meet(n > 0 && own.get(n - 1) == 255 && low >= 134217728L, "LOW of 2^27 behind 255");
+            meet(n > 0 && own.get(n - 1) == 254 && low >= 134217728L, "carry makes 255");
+            meet(n > 0 && own.get(n - 1) < 254 && low >= 134217728L, "carry");
+            meet(low == 134217728L, "LOW just 2^27");
             if (n > 0 && own.get(n - 1) != 255 && low >= 134217728L) {
                 low -= 134217728L;
                 own.set(n - 1, own.get(n - 1) + 1);
             }
+            meet(low / (n > 0 && own.get(n - 1) == 255 ? 1048576 : 524288) > 255, "a byte above 255");
             if (n > 0 && own.get(n - 1) == 255) {
                 own.add((int) (low / 1048576 % 256));
                 low %= 1048576;
@@ -331,13 +353,18 @@ final class DocModel {
         void end() {
             if (has(16)) {
                 int n = 12 - room;
+                int had = own.size();
                 while (n > 0) {
                     low *= 1L << room;
                     out();
                     n -= room;
+                    meet(n == 0, "way 1 ends with n just 0");
                 }
+                met.add("way 1, bytes of the end: " + (own.size() - had));
             } else {
                 long m = low / 65536 * 65536 + 65535;
+                meet(m < low + size, "way 0, m below");
+                meet(m >= low + size, "way 0, m not below");
                 low = m < low + size ? m : m - 32768;
                 for (int i = 0; i < 2; i++) {
                     low *= 1L << room;
@@ -390,6 +417,7 @@ final class DocModel {
 
         void in() {
             int came = byteFrom(from, many, last), behind = byteFrom(from, many, last + 1);
+            behind255[behind] |= came == 255;
             if (came == 255 && behind > 143) {
                 value += 65280;
                 room = 8;
@@ -402,6 +430,7 @@ final class DocModel {
                 value += 256L * behind;
                 room = 8;
             }
+            meet(value >= 4294967296L, "VALUE went round");
             value %= 4294967296L;
         }
 
@@ -409,6 +438,11 @@ final class DocModel {
             int p = STATES[state[c]][0];
             int bit;
             size -= p;
+            meet(value / 65536 == p, "VALUE / 2^16 just p");
+            meet(value / 65536 < p && size == p, "VALUE / 2^16 below p, SIZE just p");
+            meet(value / 65536 >= p && size == p, "VALUE / 2^16 not below p, SIZE just p");
+            meet(value / 65536 >= p && size == 32768, "reading, SIZE just 32768");
+            meet(value / 65536 >= p && size == 32767, "reading, SIZE just below 32768");
             if (value / 65536 < p) {
                 bit = size < p ? likely[c] : 1 - likely[c];
                 size = p;
@@ -428,6 +462,7 @@ final class DocModel {
             do {
                 if (room == 0) in();
                 size *= 2;
+                meet(value >= 2147483648L, "VALUE went round");
                 value = value * 2 % 4294967296L;
                 room--;
             } while (size < 32768);
@@ -451,6 +486,12 @@ final class DocModel {
             }
             left--;
             return byteFrom(from, many, k) >> left & 1;
+        }
+    }
+
+    static void dropLast255(List<Integer> own) {
+        if (!own.isEmpty() && own.get(own.size() - 1) == 255) {
+            own.remove(own.size() - 1);
         }
     }
 
@@ -494,9 +535,9 @@ final class DocModel {
                 coder.end();
                 own = coder.own;
             }
-            if (!own.isEmpty() && own.get(own.size() - 1) == 255) {
-                own.remove(own.size() - 1);
-            }
+            int had = own.size();
+            dropLast255(own);
+            meet(own.size() < had, raw ? "raw segment ends with 255" : "coded segment ends with 255");
             bytes.addAll(own);
             segments.add(new int[] {first, k - 1, place, own.size()});
         }
