@@ -238,12 +238,14 @@ public final class BlockEdgeTest extends Sentences {
     }
 
     private static void zeroContexts() {
-        sentence(CONTEXTS, "ZERO: for the bands 0 and 2: 8 if h is 2");
+        sentence(CONTEXTS, "ZERO: for the bands 0 and 2: 8 if h is 2; if h is 1: 7 if v is above 0, otherwise 6 if d is above 0, "
+            + "otherwise 5; if h is 0: 4 if v is 2, 3 if v is 1, otherwise 2 if d is above 1, otherwise d.");
         zeroContext(0);
         zeroContext(2);
         sentence(CONTEXTS, "For band 1 the same with h and v changed one for the other.");
         zeroContext(1);
-        sentence(CONTEXTS, "For band 3, with s being h + v: 8 if d is above 2");
+        sentence(CONTEXTS, "For band 3, with s being h + v: 8 if d is above 2; if d is 2: 7 if s is above 0, otherwise 6; "
+            + "if d is 1: 5 if s is above 1, otherwise 3 + s; if d is 0: 2 if s is above 1, otherwise s.");
         zeroContext(3);
     }
 
