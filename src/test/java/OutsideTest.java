@@ -4,8 +4,9 @@
  * (compared once, by hand). So a sentence of the document that was misread in the class and in the model
  * alike would be seen here. That program isn't needed for the test, only the numbers below.
  *
- * No block here has a raw segment that ends with 255 or with 255, 127: there that tool ends otherwise
- * than the document ("In each case a last byte of 255 is taken away at the end."), which is followed.
+ * The blocks were chosen so that they keep clear of two cases where that program ends a raw segment
+ * otherwise than the document, whose words are followed ("In each case a last byte of 255 is taken away
+ * at the end."): with PLAIN it has 255, 42 in place of a last 255; without, it takes 255, 127 away too.
  */
 public final class OutsideTest {
     // Of each style 0 to 63: how many bytes the blocks have, and the digest of the bytes.
